@@ -107,5 +107,11 @@ public final class AlarmsTest {
         T.due("made by none", x.strange(), 8);
         x.seen(7);
         T.due("all made", x.strange(), 0);
+        x.seen(6);
+        T.due("without 0", x.strange(), 0);
+        ColdRows y = new ColdRows();
+        y.cause(3);
+        y.seen(2);
+        T.due("the first makes another too", y.strange(), 2);
     }
 }

@@ -103,6 +103,32 @@ public final class PlacingsTest {
             T.due("placed(" + m + ") at last", x.placed(m), last[m]);
         }
         roundedTies();
+        tightPlaces();
+    }
+
+    private static void tightPlaces() {
+        ColdRows x = new ColdRows();
+        x.rack(0, 20000, 1, 3);
+        x.rack(0, 20000, 1, 4);
+        x.share(1, 1, 1);
+        x.machine(10, 2);
+        x.machine(20, 2);
+        T.due("not both at 0, the smaller one warms 1", x.placed(0), 1);
+        T.due("the greater one does not", x.placed(1), 0);
+        T.due("warmest", x.warmest(), 20010);
+        x.machine(30, 1);
+        T.due("0 takes 2 and 1", x.placed(2), 0);
+        x.machine(5, 1);
+        T.due("0 takes 1 more no more", x.placed(3), 1);
+        T.due("warmest", x.warmest(), 20015);
+        x.machine(5, 1);
+        T.due("7 PLACES for 7", x.placed(4), 1);
+        T.due("warmest", x.warmest(), 20020);
+        T.due("0 as ahead", x.placed(0), 1);
+        x.leave();
+        x.machine(5, 2);
+        T.due("7 PLACES for 8", x.placed(4), NONE);
+        T.due("warmest", x.warmest(), NONE);
     }
 
     private static void roundedTies() {

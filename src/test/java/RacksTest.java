@@ -192,6 +192,10 @@ public final class RacksTest {
         T.due("two", x.hot(0), 2);
         T.due("first of two", x.hot(1), 1);
         T.due("the least of two", x.hot(2), 1);
+        x.share(0, 0, 101);
+        T.due("RACK 0, too", x.hot(0), 3);
+        T.due("it is the first", x.hot(1), 0);
+        T.due("all the same: the least", x.hot(2), 0);
         int[] bad = {-1, 3, LOW, HIGH};
         for (int what : bad) {
             T.due("no such what", x.hot(what), BAD);
