@@ -9,6 +9,8 @@ import java.util.Arrays;
 public final class ColdRows {
     public static final int BAD = -1, STATE = -2, FULL = -3, NONE = -4;
 
+    /** Above every POWER, margin and warmth. */
+    private static final int MORE_THAN_ANY = 1000000000;
     private static final int MOST_RACKS = 8, MOST_LOAD = 1000, MOST_SHARE = 200;
     private static final int LEAST_AIR = 10, MOST_AIR = 30, MOST_FAN = 5;
     private static final int MOST_MACHINES = 5;
@@ -139,7 +141,7 @@ public final class ColdRows {
 
     public int best() {
         int loads = hall.allLoads();
-        int least = Integer.MAX_VALUE;
+        int least = MORE_THAN_ANY;
         int answer = NONE;
         // The FAN runs outside and only less POWER wins, so of several the least FAN, then AIR, stays.
         for (int fan = 1; fan <= MOST_FAN; fan++) {
@@ -463,7 +465,7 @@ public final class ColdRows {
 
         int nearestToLimit() {
             int nearest = NONE;
-            int least = Integer.MAX_VALUE;
+            int least = MORE_THAN_ANY;
             for (int r = 0; r < racks; r++) {
                 int left = margin(r);
                 if (left < least) {
@@ -514,7 +516,7 @@ public final class ColdRows {
         private final int[] free = new int[MOST_RACKS];
         /** Row m: what is given at each RACK when the MACHINES ahead of m have their RACKS. */
         private final int[][] given = new int[MOST_MACHINES + 1][MOST_RACKS];
-        private int least = Integer.MAX_VALUE;
+        private int least = MORE_THAN_ANY;
 
         int add(int load, int room) {
             if (machines >= MOST_MACHINES) {
@@ -536,9 +538,9 @@ public final class ColdRows {
             for (int j = 0; j < hall.racks; j++) {
                 given[0][j] = hall.givenAt(j);
             }
-            least = Integer.MAX_VALUE;
+            least = MORE_THAN_ANY;
             searchFrom(hall, 0);
-            return least == Integer.MAX_VALUE ? NONE : least;
+            return least == MORE_THAN_ANY ? NONE : least;
         }
 
         private void freeAll(Hall hall) {
