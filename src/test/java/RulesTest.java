@@ -27,6 +27,7 @@ public final class RulesTest {
         constants();
         fields();
         words();
+        methods();
         nothingIsMade();
         T.end();
     }
@@ -115,6 +116,35 @@ public final class RulesTest {
             if (source.charAt(i) > 255) {
                 T.isTrue("character " + i + " is below 256", false);
             }
+        }
+    }
+
+    private static void methods() throws IOException {
+        T.part("rule 11, methods");
+        parametersOf(ColdRows.class);
+        for (Class<?> inside : ColdRows.class.getDeclaredClasses()) {
+            parametersOf(inside);
+        }
+        Pattern head = Pattern.compile("( {4}| {8})(?! )[\\w\\[\\] ]+\\([^;]*\\) \\{");
+        String[] lines = Files.readString(Path.of("src/main/java/ColdRows.java")).split("\n");
+        int found = 0;
+        for (int from = 0; from < lines.length; from++) {
+            Matcher m = head.matcher(lines[from]);
+            if (m.matches() && !lines[from].trim().matches("(if|for|while|switch)\\b.*")) {
+                int to = from;
+                while (to < lines.length && !lines[to].equals(m.group(1) + "}")) {
+                    to++;
+                }
+                found++;
+                T.isTrue(lines[from].trim() + " is short", to - from < 60);
+            }
+        }
+        T.isTrue("the methods are found, not only " + found, found > FACE.length);
+    }
+
+    private static void parametersOf(Class<?> type) {
+        for (Method m : type.getDeclaredMethods()) {
+            T.isTrue(m + " takes at most seven", m.getParameterCount() <= 7);
         }
     }
 
